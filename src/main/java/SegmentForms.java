@@ -744,13 +744,9 @@ public final class SegmentForms {
             this.message = message;
             rows = new int[SEGMENTS_MOST];
             aboves = new int[SEGMENTS_MOST];
-            Arrays.fill(rows, NONE);
-            Arrays.fill(aboves, NONE);
-            answer = NONE;
-            faultSegment = NONE;
-            faultRow = NONE;
             next = 0;
             last = 0;
+            forget();
         }
 
         void forget() {
@@ -846,10 +842,11 @@ public final class SegmentForms {
         }
 
         private boolean walkRow(Grammar grammar, int row, int level, int above) {
-            int times = 0;
-            int end = grammar.endOfGroup(row);
             int tag = grammar.tagOf(row);
-            while (times < grammar.mostOf(row) && next < last && message.tagOf(next) == tag) {
+            int most = grammar.mostOf(row);
+            int end = grammar.endOfGroup(row);
+            int times = 0;
+            while (times < most && next < last && message.tagOf(next) == tag) {
                 int mine = next;
                 walkOver(mine, row, above);
                 times++;

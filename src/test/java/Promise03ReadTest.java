@@ -165,6 +165,19 @@ public final class Promise03ReadTest {
         due.is(-1, "read() of nothing", x.read());
         due.is(1, "read() of the last text", Forms.read(x, "JKL'"));
         due.is(-1, "read() of nothing again", x.read());
+        // Nothing is left of where a wrong text ended.
+        for (String early : new String[] {"A", "AB", "ABC", "ABC+x", "ABC+?", "ABC'+"}) {
+            Forms.read(x, early);
+            due.is(1, "read() behind " + early, Forms.read(x, "MNO+p'"));
+            due.is("p", "field(0, 0, 0, 0) behind " + early, Forms.component(x, 0, 0, 0, 0));
+        }
+        Forms.read(x, "ABC+a:b*c'DEF+d'");
+        Forms.read(x, "GHI+e*f:g*h'");
+        due.is(3, "repeats(0, 0) of the message behind another", x.repeats(0, 0));
+        due.is(2, "components(0, 0, 1) of the message behind another", x.components(0, 0, 1));
+        due.is("g", "field(0, 0, 1, 1) of the message behind another",
+                Forms.component(x, 0, 0, 1, 1));
+        Forms.read(x, "wrong");
         due.is(0, "count(1) behind nothing", x.count(1));
     }
 }

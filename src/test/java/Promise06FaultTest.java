@@ -5,6 +5,7 @@ public final class Promise06FaultTest {
     public static void main(String[] args) {
         ofEachAnswer();
         forgotten();
+        checkedAgain();
         otherWhats();
         due.end();
     }
@@ -65,6 +66,22 @@ public final class Promise06FaultTest {
         faults(x, "no message", -1, -1, -1);
         due.thrown(IllegalStateException.class, "check() without a message", () -> x.check());
         faults(x, "a check without a message", -1, -1, -1);
+    }
+
+    private static void checkedAgain() {
+        SegmentForms x = Forms.withMessage(Forms.framed(1, "XXX'BBB'XXX'AAA'"));
+        Forms.rows(x, 1, "XXX 1 2 0,AAA 0 1 1");
+        x.check();
+        faults(x, "a tag that no row has", 6, 2, -1);
+        Forms.rows(x, 1, "BBB 1 1 1");
+        x.check();
+        faults(x, "a row that is missing", 7, 5, 2);
+        Forms.rows(x, 1, "XXX 0 1 1");
+        x.check();
+        faults(x, "a segment left over", 8, 4, -1);
+        Forms.rows(x, 1, "AAA 0 1 0");
+        x.check();
+        faults(x, "nothing wrong any more", 0, -1, -1);
     }
 
     private static void otherWhats() {

@@ -65,6 +65,14 @@ public final class Promise07SegmentTest {
         walked(x, new int[] {-1, 0, -1, -1}, new int[] {-1, -1, -1, -1});
         x.check();
         walked(x, new int[] {-1, 0, 1, -1}, new int[] {-1, -1, 1, -1});
+        // A segment that only an earlier check walked over has no row.
+        SegmentForms y = Forms.withMessage(Forms.framed(1, "XXX'BBB'XXX'AAA'"));
+        Forms.rows(y, 1, "XXX 1 2 0,AAA 0 1 1,BBB 1 1 1");
+        due.is(7, "check()", y.check());
+        walked(y, new int[] {-1, 0, 2, 0, 1, -1}, new int[] {-1, -1, 1, -1, 3, -1});
+        Forms.rows(y, 1, "XXX 0 1 1");
+        due.is(8, "check()", y.check());
+        walked(y, new int[] {-1, 0, 2, 3, -1, -1}, new int[] {-1, -1, 1, 1, -1, -1});
         // What a longer message's check has left is not there for the next one.
         Forms.read(x, Forms.framed(1, "AAA'AAA'"));
         walked(x, new int[] {-1, -1, -1, -1}, new int[] {-1, -1, -1, -1});
