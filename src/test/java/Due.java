@@ -1,15 +1,24 @@
-/** What is due of calls: prints every answer that is not, and ends with exit code 1 if there was one. */
+/** What is due of calls: prints every answer that is not, with exit code 1 if there was one. */
 final class Due {
     interface Call {
         long answer();
     }
 
     private final String name;
+    private String words = "";
     private int asked = 0;
+    private int askedAheadOfWords = 0;
     private int wrong = 0;
 
     Due(String name) {
         this.name = name;
+    }
+
+    /** From here on answers are due by these words of the document. */
+    void by(String words) {
+        endOfWords();
+        this.words = words;
+        askedAheadOfWords = asked;
     }
 
     void is(long due, String call, long got) {
@@ -43,14 +52,21 @@ final class Due {
     }
 
     void end() {
+        endOfWords();
         System.out.println(name + ": " + asked + " answers looked at, " + wrong + " wrong");
         if (wrong != 0 || asked == 0) {
             System.exit(1);
         }
     }
 
+    private void endOfWords() {
+        if (!words.isEmpty() && asked == askedAheadOfWords) {
+            fail("nothing was asked");
+        }
+    }
+
     private void fail(String what) {
         wrong++;
-        System.out.println(name + ": " + what);
+        System.out.println(name + ": " + what + (words.isEmpty() ? "" : " (" + words + ")"));
     }
 }

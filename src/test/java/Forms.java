@@ -40,6 +40,21 @@ final class Forms {
         return "UNH+r+" + kind + "'" + between + "UNT+" + segments + "+r'";
     }
 
+    /** What is due of an object that has no message. */
+    static void noMessage(Due due, SegmentForms x, String when) {
+        due.is(0, "count(1) of " + when, x.count(1));
+        due.thrown(IllegalStateException.class, "check() of " + when, () -> x.check());
+        due.thrown(IllegalStateException.class, "build() of " + when, () -> x.build());
+        due.thrown(IndexOutOfBoundsException.class, "segment(0, 0) of " + when,
+                () -> x.segment(0, 0));
+        for (int what = 0; what < 3; what++) {
+            due.is(-1, "fault(" + what + ") of " + when, x.fault(what));
+        }
+        for (int k = 0; k < 5; k++) {
+            due.is(":+?*'".charAt(k), "count(" + (3 + k) + ") of " + when, x.count(3 + k));
+        }
+    }
+
     /** What was built last. */
     static String built(SegmentForms x) {
         StringBuilder all = new StringBuilder();
